@@ -611,7 +611,12 @@ public final class PewRank {
     }
 
     boolean isUnitSpot(int spot) {
-      return spot >= 0 && spot < SPOTS && hasUnit(spot / MOST_UNITS, spot % MOST_UNITS);
+      return spot >= 0 && hasUnit(spot / MOST_UNITS, spot % MOST_UNITS);
+    }
+
+    /** The first spot behind all benches. */
+    int spotsEnd() {
+      return benches * MOST_UNITS;
     }
 
     /** NONE, if the run from that spot on is none. */
@@ -1050,7 +1055,7 @@ public final class PewRank {
       this.parish = parish;
     }
 
-    /** To be called for all spots, the last one first. */
+    /** To be called for all spots of the benches, the last one first. */
     void setOpen(int spot, boolean isOpen) {
       boolean isBenchEnd = spot % MOST_UNITS == MOST_UNITS - 1;
       reach[spot] = isOpen ? 1 + (isBenchEnd ? 0 : reach[spot + 1]) : 0;
@@ -1060,7 +1065,8 @@ public final class PewRank {
     int bestRun(int width, int deaf, boolean galleries) {
       int found = NONE;
       int most = NONE;
-      for (int s = 0; s < SPOTS; s++) {
+      int end = church.spotsEnd();
+      for (int s = 0; s < end; s++) {
         if (isRunOpen(s, width, galleries)) {
           int value = church.worthOf(s, width, deaf);
           if (value > most) {
@@ -1090,7 +1096,7 @@ public final class PewRank {
     }
 
     private void openThoseOf(int[] owner, int h) {
-      for (int s = SPOTS - 1; s >= 0; s--) {
+      for (int s = church.spotsEnd() - 1; s >= 0; s--) {
         setOpen(s, owner[s] == h && church.isUnitSpot(s));
       }
     }
@@ -1117,11 +1123,12 @@ public final class PewRank {
       Household who = parish.find(waiting[k]);
       int mine = k * (SPOTS + 1);
       int next = mine + SPOTS + 1;
+      int end = church.spotsEnd();
       if (k == waiters - 1) {
-        Arrays.fill(best, next, next + SPOTS + 1, 0L);
+        Arrays.fill(best, next, next + end + 1, 0L);
       }
-      best[mine + SPOTS] = 0;
-      for (int s = SPOTS - 1; s >= 0; s--) {
+      best[mine + end] = 0;
+      for (int s = end - 1; s >= 0; s--) {
         long without = Math.max(best[next + s], best[mine + s + 1]);
         best[mine + s] = Math.max(without, sumSeated(who, next, s, low));
       }
@@ -1152,7 +1159,8 @@ public final class PewRank {
     private int firstOfBest(int k, Household who, int behind, int low) {
       int mine = k * (SPOTS + 1);
       int next = mine + SPOTS + 1;
-      for (int s = behind; s < SPOTS; s++) {
+      int end = church.spotsEnd();
+      for (int s = behind; s < end; s++) {
         if (sumSeated(who, next, s, low) == best[mine + behind]) {
           return s;
         }
@@ -1474,7 +1482,7 @@ public final class PewRank {
     }
 
     private void openSpots(boolean aheadOfBell) {
-      for (int s = SPOTS - 1; s >= 0; s--) {
+      for (int s = church.spotsEnd() - 1; s >= 0; s--) {
         boolean isFor = !aheadOfBell || isSpare[s];
         usher.setOpen(s, isFor && !isTaken[s] && church.isUnitSpot(s));
       }
