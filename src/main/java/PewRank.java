@@ -723,6 +723,11 @@ public final class PewRank {
       return isHousehold(h) ? households[h] : null;
     }
 
+    private int rankOf(int h) {
+      Household who = find(h);
+      return who == null ? NONE : who.rank;
+    }
+
     boolean isStaying(int h) {
       Household who = find(h);
       return who != null && !who.isGone;
@@ -752,7 +757,7 @@ public final class PewRank {
           continue;
         }
         int at = n;
-        while (at > 0 && households[order[at - 1]].rank < who.rank) {
+        while (at > 0 && rankOf(order[at - 1]) < who.rank) {
           order[at] = order[at - 1];
           at--;
         }
@@ -1179,8 +1184,9 @@ public final class PewRank {
     private final int[] offered = new int[MOST_LOTS * MOST_HOUSEHOLDS];
     /** The greatest sum of the households from one on, if a set of lots is gone. */
     private final int[] best = new int[(MOST_HOUSEHOLDS + 1) * LOT_SETS];
+    /** The greatest sum of the households ahead of one, for lots of a set alone. */
+    private final int[] ahead = new int[LOT_SETS];
     private final int[] winning = new int[MOST_HOUSEHOLDS];
-    private int winningSum;
     boolean wasHeld;
     final int[] lotOf = new int[MOST_HOUSEHOLDS];
     final int[] priceOf = new int[MOST_HOUSEHOLDS];
@@ -1211,7 +1217,7 @@ public final class PewRank {
 
     /** How many win; what the latest knock told stays as it was, for this one may yet be refused. */
     int findWinners() {
-      winningSum = bestSum(NONE);
+      fillBest();
       int taken = 0;
       int winners = 0;
       for (int h = 0; h < MOST_HOUSEHOLDS; h++) {
@@ -1225,13 +1231,14 @@ public final class PewRank {
     }
 
     void findPrices() {
+      Arrays.fill(ahead, 0);
+      offeredInAll = best[0];
       for (int h = 0; h < MOST_HOUSEHOLDS; h++) {
         int lot = winning[h];
-        int others = lot == NONE ? 0 : winningSum - offered[lot * MOST_HOUSEHOLDS + h];
         lotOf[h] = lot;
-        priceOf[h] = lot == NONE ? 0 : bestSum(h) - others;
+        priceOf[h] = lot == NONE ? 0 : bestWithout(h) - (offeredInAll - offered[lot * MOST_HOUSEHOLDS + h]);
+        addAhead(h);
       }
-      offeredInAll = winningSum;
       wasHeld = true;
     }
 
@@ -1247,15 +1254,35 @@ public final class PewRank {
       lots = 0;
     }
 
-    private int bestSum(int without) {
+    private void fillBest() {
       Arrays.fill(best, MOST_HOUSEHOLDS * LOT_SETS, best.length, 0);
       for (int h = MOST_HOUSEHOLDS - 1; h >= 0; h--) {
         for (int taken = 0; taken < (1 << lots); taken++) {
           int rest = best[(h + 1) * LOT_SETS + taken];
-          best[h * LOT_SETS + taken] = h == without ? rest : Math.max(rest, bestWithLot(h, taken));
+          best[h * LOT_SETS + taken] = Math.max(rest, bestWithLot(h, taken));
         }
       }
-      return best[0];
+    }
+
+    /** Those ahead of a household share a set of lots, those behind it all others: the best of all sets. */
+    private int bestWithout(int h) {
+      int most = 0;
+      for (int set = 0; set < (1 << lots); set++) {
+        most = Math.max(most, ahead[set] + best[(h + 1) * LOT_SETS + set]);
+      }
+      return most;
+    }
+
+    /** The greater sets first, as they look at the lesser ones as those were without this household. */
+    private void addAhead(int h) {
+      for (int set = (1 << lots) - 1; set > 0; set--) {
+        for (int lot = 0; lot < lots; lot++) {
+          int offer = offered[lot * MOST_HOUSEHOLDS + h];
+          if (offer > 0 && (set >> lot & 1) != 0) {
+            ahead[set] = Math.max(ahead[set], offer + ahead[set ^ 1 << lot]);
+          }
+        }
+      }
     }
 
     private int bestWithLot(int h, int taken) {

@@ -642,7 +642,8 @@ public final class ModelTest {
     }
 
     void bench() {
-      int w = crowded ? some(4, 14) : some(4, 8), a = some(0, 61 - Math.min(14, Math.max(4, w))), y = some(0, 60);
+      int w = crowded ? dice.nextInt(5) == 0 ? some(30, 32) : some(4, 14) : some(4, 8);
+      int a = some(0, 61 - Math.min(32, Math.max(4, w))), y = some(0, 60);
       boolean g = dice.nextInt(3) == 0;
       due("bench(" + a + ", " + y + ", " + w + ", " + g + ")", x.bench(a, y, w, g), m.bench(a, y, w, g));
     }

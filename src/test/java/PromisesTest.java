@@ -209,6 +209,11 @@ public final class PromisesTest {
     due("no heir needs no numbers", y.gone(0, -1), 0);
     due("ended in year 0", y.rightOf(0, 6), -1);
     due("one that is nobody's needs none", y.gone(1, 2), 0);
+    PewRank z = church(4);
+    for (int i = 0; i < 2; i++) z.household(0, 1, 0);
+    for (int i = 0; i < 98; i++) z.right(i < 96 ? 1 : 0, 0, 0, 0, 1, 0, 9, true);
+    due("two, two numbers left", z.gone(0, 1), 2);
+    due("all numbers", z.count(4), 100);
   }
 
   private static void sell() {
@@ -818,6 +823,7 @@ public final class PromisesTest {
     due("household 0 on the left", k.seat(0, 2, 1) * 10 + k.seat(1, 2, 0), -1);
     due("household 2 on the right", k.seat(2, 2, 1), 2);
     ties();
+    ofOneBench();
     galleries();
     custom();
     longGo();
@@ -843,6 +849,28 @@ public final class PromisesTest {
     for (int h = 0; h < 5; h++) {
       due("sits then " + h, x.seat(h, 1, 0) < 0 ? -1 : x.seat(h, 1, 0) * 100 + x.seat(h, 1, 1), next[h]);
     }
+  }
+
+  /** The longest benches: the end of one does not go on at the next one's first unit. */
+  private static void ofOneBench() {
+    PewRank x = church(32, 32);
+    x.household(0, 4, 0);
+    x.household(0, 12, 0);
+    x.right(0, 1, 0, 0, 30, 0, 199, false);
+    x.right(0, 1, 1, 2, 30, 0, 199, false);
+    due("two and two are not four", x.go(), 1);
+    x.changed(0, 0, 2, 0);
+    due("two are", x.go(), 2);
+    due("at the end", x.seat(0, 1, 1), 30);
+    fill(x, 0, 0, -2, -2, -2);
+    due("strangers on the rest", x.sunday(0, 60), 2);
+    due("the next bench", x.sat(0), 100);
+    PewRank y = church(32, 32);
+    y.household(0, 4, 0);
+    y.right(0, 0, 0, 30, 2, 0, 199, false);
+    y.right(0, 0, 1, 0, 2, 0, 199, false);
+    y.go();
+    due("not by right", y.seat(0, 0, 3), 0);
   }
 
   private static void galleries() {
