@@ -1,7 +1,7 @@
 import com.sun.management.ThreadMXBean;
 import java.lang.management.ManagementFactory;
 
-/** A whole run of 512 dear calls makes little: no element is less than a byte, no object less than 16. */
+/** A long run of dear calls (some 490) makes little: no element is less than a byte, no object less than 16. */
 public final class RoomTest {
   private static final ThreadMXBean BEAN = (ThreadMXBean) ManagementFactory.getThreadMXBean();
 
@@ -17,7 +17,7 @@ public final class RoomTest {
     before = made();
     run();
     long whole = made() - before;
-    System.out.println("a new object makes " + fresh + " bytes, a run of 512 dear calls " + whole);
+    System.out.println("a new object makes " + fresh + " bytes, a long run of dear calls " + whole);
     // 600,000 objects and 7.3 million elements are the room of all calls of a run
     if (fresh > 100_000 || whole > 300_000) System.exit(1);
   }
