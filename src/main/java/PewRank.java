@@ -137,6 +137,7 @@ public final class PewRank {
     }
     ledger.passRights(household, heir, year);
     ledger.passPlots(household, heir, year);
+    auction.dropOffersOf(household);
     who.isGone = true;
     return passing;
   }
@@ -1213,6 +1214,13 @@ public final class PewRank {
 
     void noteOffer(int lot, int h, int sum) {
       offered[lot * MOST_HOUSEHOLDS + h] = sum;
+    }
+
+    /** Who is gone offers nothing, whatever it offered ahead of that. */
+    void dropOffersOf(int h) {
+      for (int lot = 0; lot < lots; lot++) {
+        noteOffer(lot, h, 0);
+      }
     }
 
     /** How many win; what the latest knock told stays as it was, for this one may yet be refused. */

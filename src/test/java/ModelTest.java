@@ -272,6 +272,7 @@ public final class ModelTest {
       offers.set(l, o);
       return n;
     }
+    int offer(int l, int h) { return stays(h) ? offers.get(l)[h] : 0; }
     Way bestWay(int h, int taken, int without, Map<Integer, Way> memo) {
       if (h == 12) return new Way(0, List.of());
       Way known = memo.get(h * 1000 + taken);
@@ -279,9 +280,9 @@ public final class ModelTest {
       Way top = null;
       for (int l = 0; l <= lots.size(); l++) {
         boolean none = l == lots.size();
-        if (!none && (h == without || (taken >> l & 1) == 1 || offers.get(l)[h] == 0)) continue;
+        if (!none && (h == without || (taken >> l & 1) == 1 || offer(l, h) == 0)) continue;
         Way rest = bestWay(h + 1, none ? taken : taken | 1 << l, without, memo);
-        top = better(top, (none ? 0 : offers.get(l)[h]) + rest.sum, l, rest);
+        top = better(top, (none ? 0 : offer(l, h)) + rest.sum, l, rest);
       }
       memo.put(h * 1000 + taken, top);
       return top;
@@ -311,7 +312,7 @@ public final class ModelTest {
       for (int h = 0; h < 12; h++) {
         if (!got.containsKey(h)) continue;
         int[] l = lots.get(got.get(h));
-        long price = bestWay(0, 0, h, new HashMap<>()).sum - (w.sum - offers.get(got.get(h))[h]);
+        long price = bestWay(0, 0, h, new HashMap<>()).sum - (w.sum - offer(got.get(h), h));
         paid.put(h, (int) price);
         in += price;
         add(3, h, l[0], l[1], l[2], year, Math.min(199, year + l[3] - 1), year).price = (int) price;

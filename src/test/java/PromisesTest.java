@@ -486,6 +486,32 @@ public final class PromisesTest {
     x.lot(0, 0, 1, 1);
     fill(x, 1, 2);
     due("an empty row", x.offers(0, 1), 0);
+    goneOffersNothing();
+  }
+
+  /** Whether the household goes ahead of offers() or behind it, it offers nothing by the time of knock(). */
+  private static void goneOffersNothing() {
+    PewRank x = church(8);
+    for (int i = 0; i < 4; i++) x.household(0, 1, 0);
+    for (int i = 0; i < 3; i++) x.lot(0, 2 * i, 2, 5);
+    fill(x, 0, 1, 90, 40, 30, 70);
+    for (int i = 0; i < 2; i++) due("four offer", x.offers(i, 0), 4);
+    due("one goes, with an heir", x.gone(0, 1), 0);
+    due("three offer for the next", x.offers(2, 0), 3);
+    due("another goes, without one", x.gone(3, -1), 0);
+    due("a lot each, nobody loses by it", x.knock(), 0);
+    due("who is gone got none", x.knocked(0, 0) * 10 + x.knocked(3, 0), -11);
+    due("nor did it pay", x.knocked(0, 1) + x.knocked(3, 1), 0);
+    due("the heir has its own offer alone", x.knocked(1, 0), 0);
+    due("the other", x.knocked(2, 0), 1);
+    due("all offered", x.knocked(1, 2), 70);
+    due("no right for who is gone", x.count(4), 2);
+    x.lot(0, 0, 1, 1);
+    fill(x, 0, 1, 90, 40, 30);
+    due("two offer", x.offers(0, 0), 2);
+    due("who would have paid 30", x.gone(2, -1), 0);
+    due("has nobody to lose by it now", x.knock(), 0);
+    due("one offer", x.knocked(1, 2), 40);
   }
 
   private static void knock() {
@@ -541,6 +567,24 @@ public final class PromisesTest {
     y.offers(1, 0);
     due("one", y.knock(), 0);
     due("rights", y.count(4), 100);
+    knockWithNumbersLeft();
+  }
+
+  /** A refused gone() leaves the offers; one that is done leaves numbers enough for those who still offer. */
+  private static void knockWithNumbersLeft() {
+    PewRank x = church(8);
+    for (int i = 0; i < 3; i++) x.household(0, 1, 0);
+    for (int i = 0; i < 99; i++) x.right(0, i < 2 ? 0 : 2, 0, 0, 1, 0, 9, true);
+    x.lot(0, 0, 1, 1);
+    x.lot(0, 1, 1, 1);
+    fill(x, 0, 1, 5, 3);
+    x.offers(0, 0);
+    x.offers(1, 0);
+    due("two rights for an heir, one number left", x.gone(0, 1), -3);
+    due("two who offer, one number left", x.knock(), -3);
+    due("without an heir", x.gone(0, -1), 0);
+    due("one who offers", x.knock(), 0);
+    due("its offer", x.knocked(1, 2) * 10 + x.knocked(0, 0), 29);
   }
 
   private static void knocked() {
