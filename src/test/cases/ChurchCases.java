@@ -28,6 +28,14 @@ final class ChurchCases extends Cases {
     return x;
   }
 
+  /** A line from the left wall to a pulpit at x 20: how high it begins, and ends. */
+  private static PewRank slant(int from, int to) {
+    PewRank x = new PewRank();
+    x.pulpit(20, to, 1000);
+    x.bench(0, from, 4, false);
+    return x;
+  }
+
   /** How many are in the way of unit 0, this pillar more. */
   private static int ways(PewRank x, int px, int py, int half) {
     x.pillar(px, py, half);
@@ -57,12 +65,19 @@ final class ChurchCases extends Cases {
       due("one point past it", ways(upright(), 26, 10, 5), 0);
       due("half 0 is the point alone", ways(upright(), 20, 10, 0), 1);
       due("half 0 beside the line", ways(upright(), 21, 10, 0), 0);
-      // a line from 0, 0 to 20, 20 and squares below it
-      PewRank slant = new PewRank();
-      slant.pulpit(20, 20, 1000);
-      slant.bench(0, 0, 4, false);
-      due("a corner alone on a slant line", ways(slant, 12, 8, 2), 1);
-      due("a corner one point off it", ways(slant, 13, 8, 2), 1);
+    });
+    test("edges too", () -> {
+      due("a rising line, a square below it", ways(slant(0, 20), 12, 8, 2), 1);
+      due("one point to the right of it", ways(slant(0, 20), 13, 8, 2), 0);
+      due("a rising line, a square above it", ways(slant(0, 20), 8, 12, 2), 1);
+      due("one point to the left of it", ways(slant(0, 20), 7, 12, 2), 0);
+      due("a falling line, a square above it", ways(slant(20, 0), 12, 12, 2), 1);
+      due("one point to the right of it", ways(slant(20, 0), 13, 12, 2), 0);
+      due("a falling line, a square below it", ways(slant(20, 0), 8, 8, 2), 1);
+      due("one point to the left of it", ways(slant(20, 0), 7, 8, 2), 0);
+      due("a point right under a line to 20, 19", ways(slant(0, 19), 19, 18, 0), 0);
+      due("a point right above it", ways(slant(0, 19), 1, 1, 0), 0);
+      due("a point on a line to 20, 18", ways(slant(0, 18), 10, 9, 0), 1);
     });
     test("BENCHES 0 .., 8 at most", () -> {
       PewRank x = new PewRank();
@@ -183,6 +198,8 @@ final class ChurchCases extends Cases {
       due("one sees no more", x.worth(1, 0, 0), 422 - 71 + 35 + 4);
       x.pillar(2, 0, 0);
       due("none sees", x.worth(0, 0, 0), 17 + 45 + 50 + 45 + 35 + 9 * 50);
+      x.pulpit(60, 60, 1);
+      due("nothing is heard, three see", x.worth(0, 0, 0), 3);
     });
   }
 
@@ -442,6 +459,8 @@ final class ChurchCases extends Cases {
       due("the other bench", x.benchOf(1, 4) * 10 + x.benchOf(1, 5), 8);
       x.go();
       due("in the next YEAR one right is over", x.benchOf(0, 4) * 10 + x.benchOf(0, 5), 62);
+      years(x, 198);
+      due("in the last YEAR", x.benchOf(0, 4) * 10 + x.benchOf(0, 5), 62);
     });
     test("-2 for others.", () -> {
       range(0, 1, 0, -2, v -> Math.min(0, furnished().benchOf(v, 0)));

@@ -104,6 +104,9 @@ final class LotCases extends Cases {
       PewRank second = bidding(3, new int[] {10, 30, 20});
       due("the second offer", second.knock(), 20);
       paid(second, 0, 20, 0);
+      PewRank least = bidding(3, new int[] {1, 2, 0});
+      due("an offer of 1", least.knock(), 1);
+      paid(least, 0, 1, 0);
       PewRank equal = bidding(2, new int[] {10000, 10000});
       due("all that it offers", equal.knock(), 10000);
       paid(equal, 10000, 0);
@@ -147,6 +150,7 @@ final class LotCases extends Cases {
       offer(x, 0, 1);
       x.knock();
       due("since, known", x.rightOf(0, 5) * 10 + x.rightOf(0, 7), 33);
+      due("in this YEAR", x.belongs(0, 0, 3, 3, 0), 0);
       due("not in the YEAR ahead", x.belongs(0, 0, 2, 3, 0), -1);
       due("not by what was known then", x.belongs(0, 0, 3, 2, 0), -1);
       due("not to heirs", x.gone(0, 1), 0);
@@ -200,6 +204,7 @@ final class LotCases extends Cases {
       due("an empty row", offer(x, 0), 0);
       due("the first has a number", offer(x, 0, 7), 1);
       due("of 0", offer(x, 0, 0, 7), 1);
+      due("the least", offer(x, 0, 1, 0, 1), 2);
       due("all", offer(x, 0, 7, 7, 7), 3);
       due("more numbers than HOUSEHOLDS", offer(x, 0, 7, 7, 0, 7, 7), 2);
       x.row(3, 1, 60);

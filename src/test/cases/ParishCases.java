@@ -193,6 +193,16 @@ final class ParishCases extends Cases {
       due("nor ahead of the first", x.belongs(0, 0, 0, 3, 1), -1);
       due("a quarrel about the YEAR ahead", x.judge(0, 1, 0, 0, 2, 3), 0);
       due("a quarrel about this YEAR", x.judge(0, 1, 0, 0, 3, 3), 1);
+      PewRank third = rare(with(flat(8), 1, 1, 1));
+      third.right(0, 0, 0, 0, 1, 1, 50, true);
+      third.right(3, 2, 0, 0, 1, 0, 50, false);
+      third.right(0, 0, 0, 1, 1, 9, 50, true);
+      years(third, 3);
+      third.gone(0, 1);
+      due("the heir against a third, about the YEAR ahead", third.judge(1, 2, 0, 0, 2, 3), 2);
+      due("the heir against a third, about this YEAR", third.judge(1, 2, 0, 0, 3, 3), 1);
+      due("one that begins later, in the YEAR ahead of that", third.belongs(0, 1, 8, 3, 0), -1);
+      due("one that begins later", third.belongs(0, 1, 9, 3, 0), 1);
     });
     test("for BETTER the older YEAR counts", () -> {
       PewRank x = rare(with(flat(8), 1, 1, 1, 1));
@@ -255,6 +265,11 @@ final class ParishCases extends Cases {
       for (int i = 0; i < 100; i++) full.sell(0, 0);
       due("also when 100 were sold", full.gone(0, 1), 0);
       due("whose it is", full.plotOf(0, 0), 1);
+      PewRank late = with(flat(8), 12, 12);
+      late.sell(0, 0);
+      years(late, 199);
+      late.gone(0, 1);
+      due("in 199", late.plotOf(0, 198) * 10 + late.plotOf(0, 199), 1);
     });
     test("It sits no more.", () -> {
       PewRank x = with(flat(8), 1, 1);
@@ -297,6 +312,11 @@ final class ParishCases extends Cases {
       due("the last YEAR", x.plotOf(0, 199), -1);
       due("twice in one YEAR", x.sell(0, 0), -1);
       due("sales to nobody count", x.count(6), 5);
+      PewRank late = years(with(flat(8), 12, 12), 198);
+      late.sell(0, 1);
+      late.go();
+      due("in 199", late.sell(0, 0), 1);
+      due("whose it is then", late.plotOf(0, 199), 0);
     });
     test("-2: there are none such, the HOUSEHOLD is GONE", () -> {
       int[][] none = {{-1, 0}, {8, 0}, {MIN, 0}, {MAX, 0}, {0, -2}, {0, 4}, {0, MIN}, {0, MAX}, {8, -1}};
@@ -382,6 +402,11 @@ final class ParishCases extends Cases {
       x.ends(1);
       due("one has ended", x.householdOf(0, 5), 1);
       due("the other's", x.householdOf(1, 5), 1);
+      PewRank late = with(flat(8), 12);
+      late.right(1, 7, 0, 0, 1, 199, 199, false);
+      late.sell(7, 0);
+      due("not yet", years(late, 198).householdOf(0, 5), 0);
+      due("in 199", years(late, 1).householdOf(0, 5), 1);
     });
     test("-2 for others.", () -> {
       range(0, 3, 0, -2, v -> Math.min(0, furnished().householdOf(v, 0)));

@@ -310,6 +310,13 @@ final class RightCases extends Cases {
       due("in the YEAR ahead of its sale", x.judge(0, 1, 0, 0, 1, 1), 0);
       due("at the end of YEAR 1 the third has none", x.judge(0, 2, 0, 0, 2, 1), 0);
       due("now it has", x.judge(0, 2, 0, 0, 2, 2), 2);
+      PewRank sold = wide();
+      sold.right(1, 2, 0, 0, 1, 0, 9, false);
+      sold.sell(2, 0);
+      sold.go();
+      sold.sell(2, 1);
+      due("in the YEAR ahead of a sale from one to the other", sold.judge(0, 1, 0, 0, 0, 1), 0);
+      due("in the YEAR of that", sold.judge(0, 1, 0, 0, 1, 1), 1);
     });
     test("which of them has the better RIGHT (III); NONE: neither has one", () -> {
       PewRank x = wide();

@@ -16,7 +16,7 @@ final class RowCases extends Cases {
     pasteRefused();
   }
 
-  /** The first numbers of a row of WIDTH 1, 2 or 3, one after the other: what a household would offer for a lot. */
+  /** The first numbers of a row of WIDTH 1. */
   private void holds(PewRank x, int place, long... numbers) {
     for (int i = 0; i < numbers.length; i++) due("number " + i, numberAt(x, place, i), numbers[i]);
   }
@@ -25,14 +25,14 @@ final class RowCases extends Cases {
     return with(flat(4), 12);
   }
 
-  /** A lot is put up and knocked down, household 0 offering number i of the place; works for 0 .. 10000, WIDTH 1. */
+  /** Read by an offer of household 0 for a lot that is put up and knocked down; -4, if it is not 0 .. 10000. */
   private static long numberAt(PewRank x, int place, int i) {
     x.row(3, 1, 1);
     x.paste(place, i, 3, 0, 1);
     x.lot(0, 0, 1, 1);
-    x.offers(0, 3);
+    int taken = x.offers(0, 3);
     x.knock();
-    return x.knocked(0, 2);
+    return taken < 0 ? taken : x.knocked(0, 2);
   }
 
   private void row() {

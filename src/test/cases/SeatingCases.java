@@ -200,6 +200,12 @@ final class SeatingCases extends Cases {
       due("its own in the first of them", own.count(4), 1);
       own.go();
       due("nobody's in three", own.count(4), 2);
+      PewRank last = with(flat(4), 4);
+      years(last, 2);
+      last.right(0, 0, 0, 3, 1, 2, 2, false);
+      last.right(0, 0, 0, 0, 3, 2, 2, false);
+      last.go();
+      due("its own in the last of them", last.count(4) * 10 + last.seat(0, 2, 3), 21);
       PewRank later = with(flat(4), 4, 12);
       years(later, 2);
       later.right(0, 1, 0, 0, 1, 0, 1, false);
@@ -274,6 +280,10 @@ final class SeatingCases extends Cases {
       due("one too wide", with(flat(4), 5).go(), 0);
       due("as wide as the BENCH", with(flat(4), 4).go(), 1);
       due("the widest", with(flat(12), 12).go(), 1);
+      PewRank end = with(flat(4, 32), 1);
+      end.pulpit(31, 1, 1000);
+      end.go();
+      due("on the last UNIT of the longest BENCH", at(end, 0, 0), 131);
       due("all twelve", with(flat(12), 1, 1, 1, 1, 1, 1, 1, 1, 1, 1, 1, 1).go(), 12);
       PewRank gone = with(flat(4), 1, 1);
       gone.gone(0, -1);
@@ -373,6 +383,14 @@ final class SeatingCases extends Cases {
       for (int i = 0; i < 4; i++) custom.beside(0);
       due("no custom comes of it", custom.count(4), 0);
       due("in 199, too", lastYear().beside(1), 1);
+      PewRank now = with(flat(4), 12);
+      now.household(0, 4, 0);
+      now.right(0, 0, 0, 0, 1, 1, 1, false);
+      due("in YEAR 0 all is nobody's", now.beside(1), 1);
+      now.go();
+      due("in YEAR 1 one UNIT is not", now.beside(1), 0);
+      now.go();
+      due("in YEAR 2 it is again", now.beside(1), 1);
     });
     test("what 0 all worth of it (IV), 1 how many sit, 2 UNITS that are sat on", () -> {
       PewRank none = new PewRank();
@@ -386,6 +404,9 @@ final class SeatingCases extends Cases {
       x.changed(0, 4, 2, 2);
       due("two sit", x.beside(1), 2);
       due("on four", x.beside(2), 4);
+      x.changed(0, 4, 12, 2);
+      due("who sat in the one ahead of that is not counted in", x.beside(0), 192 * 4);
+      due("nor are its UNITS", x.beside(1) * 10 + x.beside(2), 12);
       // 12 of the greatest RANK, WIDTH and DEAF, near the loudest pulpit
       PewRank most = new PewRank();
       most.pulpit(0, 0, 100000);

@@ -123,6 +123,13 @@ final class SundayCases extends Cases {
       PewRank land = with(flat(8), 12);
       land.right(1, 0, 0, 0, 8, 0, 199, false);
       due("land of a PLOT that is nobody's is nobody's", come(land, 60, -8), 0);
+      PewRank now = with(flat(8), 12);
+      now.right(0, 0, 0, 0, 1, 1, 1, false);
+      due("somebody's from the next YEAR on", come(now, 60, -8), 0);
+      now.go();
+      due("somebody's in this YEAR", come(now, 60, -8), 1);
+      now.go();
+      due("somebody's in the last YEAR", come(now, 60, -8), 0);
     });
   }
 
