@@ -813,8 +813,8 @@ public final class PewRank {
       this.knownIn = knownIn;
     }
 
+    /** To be called once: one that has ended is for no year from then on. */
     void endAhead(int year) {
-      untilBefore = until;
       until = year - 1;
       endToldIn = year;
     }
@@ -826,6 +826,11 @@ public final class PewRank {
     boolean isFor(int year, int known) {
       int end = known >= endToldIn ? until : untilBefore;
       return knownIn <= known && firstYear <= year && year <= end;
+    }
+
+    /** Land is held by a plot, not by the household itself. */
+    boolean isStillHeldBy(int household, int year) {
+      return kind != LAND && holder == household && until >= year;
     }
 
     /** Of two that are alike the lesser number is better: whoever asks goes by numbers. */
@@ -916,14 +921,16 @@ public final class PewRank {
     int bestFor(int bench, int unit, int year, int known, int among) {
       int best = NONE;
       for (int n = 0; n < size; n++) {
-        if (!rights[n].isOn(bench, unit) || !rights[n].isFor(year, known)) {
+        Right mine = find(n);
+        if (mine == null || !mine.isOn(bench, unit) || !mine.isFor(year, known)) {
           continue;
         }
         int holder = holderOf(n, year);
         if (holder == NONE || (among >> holder & 1) == 0) {
           continue;
         }
-        if (best == NONE || rights[n].isBetterThan(rights[best])) {
+        Right other = find(best);
+        if (other == null || mine.isBetterThan(other)) {
           best = n;
         }
       }
@@ -934,8 +941,9 @@ public final class PewRank {
     void fillOwners(int year, int[] owner) {
       Arrays.fill(bestAt, NONE);
       for (int n = 0; n < size; n++) {
-        if (rights[n].isFor(year, year) && holderOf(n, year) != NONE) {
-          markBest(n);
+        Right mine = find(n);
+        if (mine != null && mine.isFor(year, year) && holderOf(n, year) != NONE) {
+          markBest(mine, n);
         }
       }
       for (int s = 0; s < bestAt.length && s < owner.length; s++) {
@@ -943,8 +951,7 @@ public final class PewRank {
       }
     }
 
-    private void markBest(int number) {
-      Right mine = rights[number];
+    private void markBest(Right mine, int number) {
       int first = mine.bench * MOST_UNITS + mine.from;
       for (int s = first; s < first + mine.units && s < bestAt.length; s++) {
         Right other = find(bestAt[s]);
@@ -957,7 +964,8 @@ public final class PewRank {
     int heldBy(int household, int year) {
       int held = 0;
       for (int n = 0; n < size; n++) {
-        if (rights[n].isFor(year, year) && holderOf(n, year) == household) {
+        Right mine = find(n);
+        if (mine != null && mine.isFor(year, year) && holderOf(n, year) == household) {
           held++;
         }
       }
@@ -967,7 +975,8 @@ public final class PewRank {
     int heritableOf(int household, int year) {
       int passing = 0;
       for (int n = 0; n < size; n++) {
-        if (isStillHeld(n, household, year) && rights[n].heirs) {
+        Right mine = find(n);
+        if (mine != null && mine.isStillHeldBy(household, year) && mine.heirs) {
           passing++;
         }
       }
@@ -977,8 +986,8 @@ public final class PewRank {
     void passRights(int household, int heir, int year) {
       int before = size;
       for (int n = 0; n < before; n++) {
-        if (isStillHeld(n, household, year)) {
-          Right old = rights[n];
+        Right old = find(n);
+        if (old != null && old.isStillHeldBy(household, year)) {
           int until = old.until;
           old.endAhead(year);
           if (old.heirs && heir != NONE) {
@@ -986,11 +995,6 @@ public final class PewRank {
           }
         }
       }
-    }
-
-    private boolean isStillHeld(int number, int household, int year) {
-      Right which = find(number);
-      return which != null && which.kind != LAND && which.holder == household && which.until >= year;
     }
 
     private static Right inherited(Right old, int heir, int until, int year) {
