@@ -36,6 +36,14 @@ final class ChurchCases extends Cases {
     return x;
   }
 
+  /** A line from x 20 to a pulpit at the left wall: how high it begins, and ends. */
+  private static PewRank slantBack(int from, int to) {
+    PewRank x = new PewRank();
+    x.pulpit(0, to, 1000);
+    x.bench(20, from, 4, false);
+    return x;
+  }
+
   /** How many are in the way of unit 0, this pillar more. */
   private static int ways(PewRank x, int px, int py, int half) {
     x.pillar(px, py, half);
@@ -67,14 +75,14 @@ final class ChurchCases extends Cases {
       due("half 0 beside the line", ways(upright(), 21, 10, 0), 0);
     });
     test("edges too", () -> {
-      due("a rising line, a square below it", ways(slant(0, 20), 12, 8, 2), 1);
-      due("one point to the right of it", ways(slant(0, 20), 13, 8, 2), 0);
-      due("a rising line, a square above it", ways(slant(0, 20), 8, 12, 2), 1);
-      due("one point to the left of it", ways(slant(0, 20), 7, 12, 2), 0);
-      due("a falling line, a square above it", ways(slant(20, 0), 12, 12, 2), 1);
-      due("one point to the right of it", ways(slant(20, 0), 13, 12, 2), 0);
-      due("a falling line, a square below it", ways(slant(20, 0), 8, 8, 2), 1);
-      due("one point to the left of it", ways(slant(20, 0), 7, 8, 2), 0);
+      // one corner lies on the line, then is a point off it: lines up and down, to the right and to the left
+      int[][] fromToSquare = {{0, 20, 12, 8, 13}, {0, 20, 8, 12, 7}, {20, 0, 12, 12, 13}, {20, 0, 8, 8, 7}};
+      for (int[] f : fromToSquare) {
+        due("a corner at a line from " + f[0] + " to " + f[1], ways(slant(f[0], f[1]), f[2], f[3], 2), 1);
+        due("a point off a line from " + f[0] + " to " + f[1], ways(slant(f[0], f[1]), f[4], f[3], 2), 0);
+        due("a corner at a line back from " + f[1] + " to " + f[0], ways(slantBack(f[1], f[0]), f[2], f[3], 2), 1);
+        due("a point off a line back from " + f[1] + " to " + f[0], ways(slantBack(f[1], f[0]), f[4], f[3], 2), 0);
+      }
       due("a point right under a line to 20, 19", ways(slant(0, 19), 19, 18, 0), 0);
       due("a point right above it", ways(slant(0, 19), 1, 1, 0), 0);
       due("a point on a line to 20, 18", ways(slant(0, 18), 10, 9, 0), 1);

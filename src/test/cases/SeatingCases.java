@@ -137,6 +137,12 @@ final class SeatingCases extends Cases {
       // 53 times 7 and 264 is 635, 101 times 7 is 707
       y.go();
       sat(y, 1, 3, -1);
+      // the first and the last unit alone are nobody's, and the first sees nothing: the last is worth one more
+      PewRank ends = with(flat(32), 12, 1, 2);
+      ends.right(0, 0, 0, 1, 30, 0, 199, false);
+      ends.pillar(0, 0, 0);
+      ends.go();
+      sat(ends, 0, 1, 31, -1);
     });
     test("of several: the first HOUSEHOLD on the least BENCH, then UNIT, that can be (none behind all), then the next one, ..", () -> {
       // nothing is heard and nobody sees: all ways are worth 0
