@@ -329,6 +329,11 @@ final class ChurchCases extends Cases {
     });
   }
 
+  /** Eight of the longest benches, twelve households. */
+  private static PewRank fullChurch() {
+    return with(flat(32, 32, 32, 32, 32, 32, 32, 32), 12, 12, 12, 12, 12, 12, 12, 12, 12, 12, 12, 12);
+  }
+
   private static PewRank eightPillars() {
     PewRank x = with(flat(8, 4), 2, 1);
     for (int p = 0; p < 8; p++) x.pillar(3, p, 0);
@@ -415,6 +420,8 @@ final class ChurchCases extends Cases {
       range(0, 1, 0, -2, v -> Math.min(0, furnished().unit(v, 0, 0)));
       range(0, 7, 0, -2, v -> Math.min(0, furnished().unit(0, v, 0)));
       range(0, 5, 0, -2, v -> Math.min(0, furnished().unit(1, v, 0)));
+      range(0, 7, 0, -2, v -> Math.min(0, fullChurch().unit(v, 31, 0)));
+      range(0, 31, 0, -2, v -> Math.min(0, fullChurch().unit(7, v, 0)));
     });
   }
 
@@ -436,6 +443,8 @@ final class ChurchCases extends Cases {
     test("or the RUN goes beyond the BENCH", () -> {
       range(0, 6, 0, -2, v -> Math.min(0, furnished().worth(0, 0, v)));
       range(0, 7, 0, -2, v -> Math.min(0, furnished().worth(2, 0, v)));
+      range(0, 20, 0, -2, v -> Math.min(0, fullChurch().worth(11, 7, v)));
+      range(0, 11, 0, -2, v -> Math.min(0, fullChurch().worth(v, 7, 20)));
       PewRank x = with(sloped(11), 12);
       due("a household that is wider than the bench", x.worth(0, 0, 0), -2);
     });
@@ -469,10 +478,15 @@ final class ChurchCases extends Cases {
       due("in the next YEAR one right is over", x.benchOf(0, 4) * 10 + x.benchOf(0, 5), 62);
       years(x, 198);
       due("in the last YEAR", x.benchOf(0, 4) * 10 + x.benchOf(0, 5), 62);
+      PewRank full = fullChurch();
+      full.right(0, 11, 7, 0, 32, 0, 199, false);
+      due("all of the last BENCH", full.benchOf(7, 4) * 100 + full.benchOf(7, 5), 3200);
+      due("none of the one ahead of it", full.benchOf(6, 4) * 100 + full.benchOf(6, 5), 32);
     });
     test("-2 for others.", () -> {
       range(0, 1, 0, -2, v -> Math.min(0, furnished().benchOf(v, 0)));
       range(0, 5, 0, -2, v -> Math.min(0, furnished().benchOf(0, v)));
+      range(0, 7, 0, -2, v -> Math.min(0, fullChurch().benchOf(v, 4)));
       due("ahead of any bench", new PewRank().benchOf(0, 2), -2);
     });
   }

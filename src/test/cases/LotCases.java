@@ -226,6 +226,11 @@ final class LotCases extends Cases {
       x.gone(0, 1);
       due("GONE when it is knocked down", x.knock(), 3);
       got(x, -1, 0, -1);
+      PewRank all = eightLots();
+      for (int lot = 0; lot < 8; lot++) offer(all, lot, 5, lot);
+      due("with eight LOTS that are up", all.gone(0, -1), 0);
+      due("one offers", all.knock(), 0);
+      got(all, -1, 7);
     });
     test("-2: there are none such", () -> {
       range(0, 1, 2, -2, v -> {
@@ -238,6 +243,7 @@ final class LotCases extends Cases {
         for (int place = 0; place < 4; place++) fill(x, place, 1, 5, 6);
         return x.offers(0, v);
       });
+      range(0, 7, 1, -2, v -> offer(eightLots(), v, 0, 1));
       PewRank none = new PewRank();
       due("ahead of any LOT, and the PLACE has nothing", none.offers(0, 0), -2);
     });
@@ -340,6 +346,11 @@ final class LotCases extends Cases {
     test("-2 for others, and ahead of any.", () -> {
       range(0, 3, 0, -2, v -> Math.min(0, furnished().knocked(v, 2)));
       range(0, 2, 0, -2, v -> Math.min(0, furnished().knocked(2, v)));
+      range(0, 11, 1, -2, v -> {
+        PewRank twelve = bidding(12, new int[] {1});
+        twelve.knock();
+        return twelve.knocked(v, 2);
+      });
       PewRank x = with(flat(8), 1);
       for (int what = 0; what < 3; what++) due("ahead of any, " + what, x.knocked(0, what), -2);
       x.lot(0, 0, 1, 1);

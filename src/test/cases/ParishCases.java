@@ -62,6 +62,7 @@ final class ParishCases extends Cases {
     });
     test("-2: there is none such", () -> {
       range(0, 3, 0, -2, v -> furnished().changed(v, 1, 1, 1));
+      range(0, 11, 0, -2, v -> twelve().changed(v, 1, 1, 1));
       due("ahead of any", new PewRank().changed(0, 1, 1, 1), -2);
     });
     test("it is GONE", () -> {
@@ -94,6 +95,7 @@ final class ParishCases extends Cases {
     });
     test("-2: there is none such, it is GONE", () -> {
       range(0, 3, 0, -2, v -> Math.min(0, furnished().gone(v, -1)));
+      range(0, 11, 0, -2, v -> twelve().gone(v, v == 11 ? 0 : 11));
       refused("none such, no heir", Cases::furnished, -2, x -> x.gone(-1, -1));
       PewRank x = furnished();
       due("once", x.gone(1, 0), 0);
@@ -104,6 +106,7 @@ final class ParishCases extends Cases {
     test("the heir is none such, GONE, or itself", () -> {
       int[] others = {-2, 4, 0, MIN, MAX};
       for (int heir : others) refused("the heir " + heir, Cases::furnished, -2, x -> x.gone(0, heir));
+      refused("the heir 12 of twelve", ParishCases::twelve, -2, x -> x.gone(0, 12));
       PewRank x = furnished();
       x.gone(1, -1);
       due("a GONE heir", x.gone(0, 1), -2);
@@ -411,6 +414,7 @@ final class ParishCases extends Cases {
     test("-2 for others.", () -> {
       range(0, 3, 0, -2, v -> Math.min(0, furnished().householdOf(v, 0)));
       range(0, 5, 0, -2, v -> Math.min(0, furnished().householdOf(0, v)));
+      range(0, 11, 0, -2, v -> twelve().householdOf(v, 5));
       due("ahead of any", new PewRank().householdOf(0, 0), -2);
     });
   }

@@ -212,6 +212,7 @@ final class RightCases extends Cases {
     test("false: none such", () -> {
       int[] none = {-1, 3, MIN, MAX};
       for (int r : none) refused("ends " + r, Cases::furnished, 0, x -> x.ends(r) ? 1 : 0);
+      range(0, 99, 1, 0, v -> hundredRights().ends(v) ? 1 : 0);
       due("ahead of any", new PewRank().ends(0), false);
     });
     test("or it ended ahead of that", () -> {
@@ -245,6 +246,7 @@ final class RightCases extends Cases {
     test("-2 for others.", () -> {
       range(0, 9, 0, -2, v -> Math.min(0, furnished().rightOf(0, v)));
       range(0, 2, 0, -2, v -> Math.min(0, furnished().rightOf(v, 0)));
+      range(0, 99, 3, -2, v -> hundredRights().rightOf(v, 0));
       due("ahead of any", new PewRank().rightOf(0, 0), -2);
     });
   }

@@ -250,6 +250,7 @@ final class SundayCases extends Cases {
     test("or a HOUSEHOLD comes twice", () -> {
       PewRank x = with(flat(12), 1, 1, 1, 1, 1, 1, 1, 1, 1, 1, 1, 1);
       due("all twelve once", come(x, 0, 11, 10, 9, 8, 7, 6, 5, 4, 3, 2, 1, 0), 0);
+      due("a thirteenth", come(x, 0, 12), -4);
       due("one twice", come(x, 0, 11, 10, 11), -4);
       due("nobody sat by that", x.sat(0), 0);
       due("strangers may", come(x, 0, -1, -1), 0);
