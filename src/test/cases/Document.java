@@ -7,17 +7,17 @@ import java.util.Map;
 import java.util.regex.Matcher;
 import java.util.regex.Pattern;
 
-/** The document by sections ("Promise 8", "IV"), and which of its words some test has quoted. */
+/** The document by sections ("What it is", "IV", "Promise 8"), and which of its words some test has quoted. */
 final class Document {
   private static final Pattern HEAD = Pattern.compile("(?m)^(?:## (Promise \\d+): .*|(I|II|III|IV|V|VI|VII)\\. )");
-  /** What names an edge in a promise: an answer that refuses, NONE, false, and a range of numbers. */
-  private static final Pattern EDGE = Pattern.compile("-\\d+|NONE|false|\\w+ \\.\\. \\w+");
+  private static final Pattern WORD = Pattern.compile("-?\\w+");
 
   private final Map<String, String> sections = new LinkedHashMap<>();
   private final Map<String, BitSet> quoted = new LinkedHashMap<>();
 
   Document(Path path) throws IOException {
     String text = Files.readString(path);
+    put("What it is", text.substring(text.indexOf("An object is used"), text.indexOf("## The public face")));
     text = text.substring(text.indexOf("## Terms"), text.indexOf("## Not promised"));
     Matcher head = HEAD.matcher(text);
     String name = null;
@@ -31,8 +31,8 @@ final class Document {
   }
 
   private void put(String name, String text) {
-    // a promise's signature has no edges of its own
-    sections.put(name, text.replaceAll("(?m)^`[^`]*`: ", ""));
+    // a promise's signature, and the marks about a block, are no words of a sentence
+    sections.put(name, text.replaceAll("(?m)^`[^`]*`: ", "").replaceAll("(?m)^```\\w*$", ""));
     quoted.put(name, new BitSet());
   }
 
@@ -45,17 +45,20 @@ final class Document {
     return true;
   }
 
-  /** The edges that no test has quoted, a line each. */
+  /** The stretches of words that no test has quoted, a line each. */
   String unquoted() {
     StringBuilder out = new StringBuilder();
     for (String section : sections.keySet()) {
-      Matcher edge = EDGE.matcher(sections.get(section));
-      while (edge.find()) {
-        if (quoted.get(section).nextClearBit(edge.start()) < edge.end()) {
-          out.append(section).append(": no test quotes \"").append(edge.group()).append("\"\n");
+      String text = sections.get(section);
+      BitSet marks = quoted.get(section);
+      for (int from = marks.nextClearBit(0); from < text.length(); from = marks.nextClearBit(from)) {
+        int end = marks.nextSetBit(from) < 0 ? text.length() : marks.nextSetBit(from);
+        String words = text.substring(from, end);
+        if (WORD.matcher(words).find()) {
+          out.append(section).append(": no test quotes \"").append(words.strip()).append("\"\n");
         }
+        from = end;
       }
-      if (quoted.get(section).isEmpty()) out.append(section).append(": no test quotes it\n");
     }
     return out.toString();
   }

@@ -14,17 +14,7 @@ import java.util.regex.Pattern;
 
 /** What of LANGUAGE.md can be seen from the source text and by reflection. */
 public final class LanguageTest {
-  private static final String[] FACE = {
-    "int pulpit(int,int,int)", "int terms(int,int)", "int pillar(int,int,int)", "int bench(int,int,int,boolean)",
-    "int household(int,int,int)", "int changed(int,int,int,int)", "int gone(int,int)", "int sell(int,int)",
-    "int plotOf(int,int)", "int right(int,int,int,int,int,int,int,boolean)", "boolean ends(int)", "int rightOf(int,int)",
-    "int unit(int,int,int)", "int worth(int,int,int)", "int belongs(int,int,int,int,int)",
-    "int judge(int,int,int,int,int,int)", "int lot(int,int,int,int)", "int offers(int,int)", "long knock()",
-    "long knocked(int,int)", "int change(int)", "int changedTo(int)", "int sunday(int,int)", "int sat(int)", "int go()",
-    "int seat(int,int,int)", "int moved(int,int)", "long beside(int)", "int householdOf(int,int)", "int benchOf(int,int)",
-    "int count(int)", "long fund()", "int row(int,int,int)", "boolean tear(int)", "int write(int,int,long)",
-    "int paste(int,int,int,int,int)"
-  };
+  private static final List<String> FACE = new ArrayList<>();
   private static int wrong = 0;
 
   private static void holds(boolean is, String what) {
@@ -35,11 +25,24 @@ public final class LanguageTest {
   }
 
   public static void main(String[] args) throws Exception {
+    readFace(Files.readString(Path.of("../shared/DOC.md")));
     face();
     for (Class<?> c : classes()) shape(c);
     text(Files.readString(Path.of("src/main/java/PewRank.java")));
     System.out.println(wrong == 0 ? "the language is kept to" : wrong + " rules are broken");
     if (wrong != 0) System.exit(1);
+  }
+
+  /** The document's methods, without the names of their parameters. */
+  private static void readFace(String document) {
+    String face = document.substring(document.indexOf("public final class PewRank {"), document.indexOf("## Terms"));
+    Matcher methods = Pattern.compile("public (int|long|boolean) (\\w+)\\(([^)]*)\\);").matcher(face);
+    while (methods.find()) {
+      String types = methods.group(3).replaceAll("(\\w+) \\w+", "$1").replaceAll(",\\s*", ",");
+      FACE.add(methods.group(1) + " " + methods.group(2) + "(" + types + ")");
+    }
+    holds(FACE.size() == 36, "promises 2 to 37 are its methods: " + FACE);
+    holds(face.contains("public static final int NONE = -1;") && PewRank.NONE == -1, "NONE is as the document tells");
   }
 
   private static List<Class<?>> classes() {
@@ -71,7 +74,7 @@ public final class LanguageTest {
         holds(!faceNames().contains(m.getName()), m + " bears no public name");
       }
     }
-    holds(open.equals(new TreeSet<>(Arrays.asList(FACE))), "the face is the document's: " + open);
+    holds(open.equals(new TreeSet<>(FACE)), "the face is the document's: " + open);
     holds(Modifier.isFinal(PewRank.class.getModifiers()), "the class is final");
     for (Constructor<?> c : PewRank.class.getDeclaredConstructors()) {
       holds(Modifier.isPublic(c.getModifiers()) && c.getParameterCount() == 0, "one public constructor");
